@@ -33,6 +33,13 @@ public final class DeedsTest {
         gate.lay();
         gate.hours(1);
         check.due("8 who bore it walks then", gate.of(5, 1), 15);
+        CarriedGate edges = check.told("14n;g25s0,g10n0,g15w0,g15e0", 4);
+        int[] atEdge = {31, 4, 12, 17};
+        int[] hours = {1, 1, 3, 2};
+        for (int one = 0; one < 4; one++) {
+            check.due("8 up to the edge", edges.then(one, hours[one], 0), atEdge[one]);
+            check.due("8 and stays", edges.then(one, hours[one] + 1, 0), atEdge[one]);
+        }
     }
 
     /** Promise 8: rain by the hours modulo 6, on those who are not in once all have walked. */
@@ -277,6 +284,10 @@ public final class DeedsTest {
         check.due("15 with the draw and who is sent", once.drift(1), in);
         check.due("15 the same draw", once.seed(0), last);
 
+        CarriedGate alone = check.told("14n;g14.0", 1);
+        alone.drift(1);
+        long first = 1103515245L + 12345L & 0x7fffffffL;
+        check.due("15 alone", alone.of(0, 2), first / 128 % 5);
         CarriedGate nobody = new CarriedGate();
         check.due("15 nobody", nobody.drift(2), 0);
         check.due("15 draws all the same", nobody.seed(1), ((1103515245L + 12345L & 0x7fffffffL) * 1103515245L + 12345L) & 0x7fffffffL);

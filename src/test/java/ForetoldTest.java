@@ -17,6 +17,7 @@ public final class ForetoldTest {
         dry();
         imageAndRestore();
         nothingIsChanged();
+        alwaysFromNow();
         check.end("ForetoldTest");
     }
 
@@ -66,6 +67,7 @@ public final class ForetoldTest {
         CarriedGate gate = check.told("14e/11;g14.3*,g15.0,t12.0", 3);
         int[] want = {0, 3, 6, 6, 10, 10, 10, 14, 18};
         for (int n = 0; n < want.length; n++) check.due("21 wet(" + n + ")", gate.wet(n), want[n]);
+        check.due("21 40 hours", gate.wet(40), 10 + 4 * 18);
         gate.hours(4);
         check.due("21 from now", gate.wet(0), 10);
         check.due("21 from now", gate.wet(3), 14);
@@ -124,6 +126,8 @@ public final class ForetoldTest {
         roomDue(bearerGoes, 3, 1, 14, 2);
         roomDue(bearerGoes, 0, CarriedGate.NONE, CarriedGate.NONE, CarriedGate.NONE);
         roomDue(check.told("14n;s14.1*,g8.0", 2), 1, 1, 14, 1);
+        roomDue(check.told("0n;s0.1*,g8.0", 2), 1, 0, 0, 0);
+        roomDue(check.told("35n;s35.20*,g35.0", 2), 3, 2, 29, 2);
         CarriedGate lying = check.told("14n;s14.9,g20.0", 2);
         roomDue(lying, 0, CarriedGate.NONE, CarriedGate.NONE, CarriedGate.NONE);
         int[][] bad = {{8, 0}, {-1, 0}, {0, -1}, {0, 3}, {256, 0}, {Integer.MIN_VALUE, 0}, {Integer.MAX_VALUE, 0}, {0, Integer.MAX_VALUE}};
@@ -247,6 +251,8 @@ public final class ForetoldTest {
         fieldDue(gate, 14, 0, 24, 1 | 4 | 8, 1);
         fieldDue(gate, 0, 2, 6, 2, 1);
         fieldDue(new CarriedGate(), 35, 1, 36, 0, 1);
+        fieldDue(check.told("6n;s6.1*", 1), 7, 3, 25, 0, 0);
+        fieldDue(check.told("29s;s29.1*", 1), 28, 1, 25, 0, 0);
         int[][] bad = {{-1, 0, 0}, {36, 0, 0}, {0, -1, 0}, {0, 4, 0}, {0, 0, -1}, {0, 0, 3}, {Integer.MAX_VALUE, 0, 0},
             {0, Integer.MIN_VALUE, 0}, {0, 0, Integer.MAX_VALUE}};
         for (int[] b : bad) check.due("28 bad", gate.field(b[0], b[1], b[2]), CarriedGate.BAD);
@@ -320,11 +326,59 @@ public final class ForetoldTest {
         check.due("31 again", gate.restore(), 1);
         int[] again = state(gate, 2);
         for (int i = 0; i < then.length; i++) check.due("31 as it was, " + i, again[i], then[i]);
+        gate.hours(13);
+        check.due("30 an image of a full past", gate.image(), 1);
+        gate.undo();
+        gate.turn(3);
+        gate.turn(2);
+        gate.restore();
+        for (int left = 7; left >= 0; left--) {
+            check.due("31 what may be undone", gate.undo(), left);
+            check.due("31 the hour", gate.count(5), 2 + 5 + left);
+        }
         gate.turn(3);
         check.due("30 a newer image", gate.image(), 1);
         gate.turn(0);
         gate.restore();
         check.due("31 the newer image", gate.count(2), 3);
+    }
+
+    /** What was foretold ahead of a call leaves nothing behind. */
+    private static void alwaysFromNow() {
+        String text = "14e/45;g14.9*,s8s4,t16w7,h20.0,p15n3,g0e20,t33n2,p34.1";
+        for (int which = 0; which < 16; which++) {
+            CarriedGate gate = check.told(text, 8);
+            CarriedGate other = check.told(text, 8);
+            gate.sheet(0, 2, 8);
+            other.sheet(0, 2, 8);
+            other.stood(0, 0);
+            other.ahead(40);
+            check.due("2 call " + which + " behind others", foretold(other, which), foretold(gate, which));
+            other.field(0, 2, 0);
+            other.ahead(17);
+            check.due("2 call " + which + " again", foretold(other, which), foretold(gate, which));
+        }
+    }
+
+    private static int foretold(CarriedGate gate, int which) {
+        switch (which) {
+            case 0: return gate.ahead(1);
+            case 1: return gate.then(1, 2, 0);
+            case 2: return gate.lies();
+            case 3: return gate.wet(5);
+            case 4: return gate.facing(2, 0);
+            case 5: return gate.room(158, 0);
+            case 6: return gate.nearest(21, 1);
+            case 7: return gate.hinge(9);
+            case 8: return gate.duel(3);
+            case 9: return gate.stood(158, 0);
+            case 10: return gate.field(8, 2, 1);
+            case 11: return gate.dry(5, 1, 3, 4, 0);
+            case 12: return gate.film(8, 0, 2, 0);
+            case 13: return gate.seen(4, 0, 2, 0, 1, 2);
+            case 14: return gate.film(8, 0, 2, 0) + gate.seen(4, 0, 2, 0, 8, 2);
+            default: return gate.film(8, 0, 2, 0) + gate.seen(6, 0, 2, 0, 8, 1);
+        }
     }
 
     private static int[] state(CarriedGate gate, int people) {

@@ -144,6 +144,7 @@ public final class PeopleTest {
         gate.seed(99);
         gate.hours(3);
         gate.hand(1);
+        check.due("6 all get wet", gate.wet(40) > 0 ? 1 : 0, 1);
         check.tell(gate, "35s;t35s20", 1);
         long[] want = {1, 35, 2, CarriedGate.NONE, 0, 0, 0, 0, 0};
         for (int what = 0; what < want.length; what++) check.due("6 count(" + what + ")", gate.count(what), want[what]);
