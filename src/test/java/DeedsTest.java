@@ -307,7 +307,7 @@ public final class DeedsTest {
     private static void undo() {
         CarriedGate gate = check.told("14n/63;s14.9*,g20n3,t0e2", 3);
         check.due("16 none", gate.undo(), CarriedGate.NONE);
-        int[] before = state(gate);
+        int[] before = Check.state(gate);
         gate.hours(1);
         gate.carry(1);
         gate.turn(2);
@@ -319,8 +319,7 @@ public final class DeedsTest {
         check.due("16 all eight", gate.count(8), 8);
         for (int left = 7; left >= 0; left--) check.due("16 undo()", gate.undo(), left);
         check.due("16 none more", gate.undo(), CarriedGate.NONE);
-        int[] after = state(gate);
-        for (int i = 0; i < before.length; i++) check.due("16 as before, " + i, after[i], before[i]);
+        check.isAsBefore("16 undo()", gate, before);
 
         gate.seed(77);
         gate.hours(1);
@@ -337,15 +336,6 @@ public final class DeedsTest {
         check.due("16 the hour", gate.count(5), 3);
         gate.turn(1);
         check.due("16 anew", gate.undo(), 0);
-    }
-
-    private static int[] state(CarriedGate gate) {
-        int[] all = new int[9 + 3 * 8];
-        for (int what = 0; what < 9; what++) all[what] = gate.count(what);
-        for (int one = 0; one < 3; one++) {
-            for (int what = 0; what < 8; what++) all[9 + 8 * one + what] = gate.of(one, what);
-        }
-        return all;
     }
 
     /** Promise 17. */

@@ -305,15 +305,14 @@ public final class ForetoldTest {
         gate.sheet(0, 2, 3);
         gate.type('9');
         check.due("30 image", gate.image(), 1);
-        int[] then = state(gate, 2);
+        int[] then = Check.state(gate);
         gate.sheet(0, 1, 4);
         gate.type('s');
         gate.drift(9);
         gate.lay();
         gate.person(4, 3, 2);
         check.due("31 restore", gate.restore(), 1);
-        int[] now = state(gate, 2);
-        for (int i = 0; i < then.length; i++) check.due("31 as it was, " + i, now[i], then[i]);
+        check.isAsBefore("31 restore()", gate, then);
         check.due("31 the draw", gate.seed(5), 5);
         check.due("31 two people", gate.of(2, 0), CarriedGate.BAD);
         check.due("31 what may be undone", gate.undo(), 2);
@@ -324,8 +323,7 @@ public final class ForetoldTest {
         check.due("31 not the tape", gate.plain(), 0);
         check.due("31 the tape", gate.count(1), 9);
         check.due("31 again", gate.restore(), 1);
-        int[] again = state(gate, 2);
-        for (int i = 0; i < then.length; i++) check.due("31 as it was, " + i, again[i], then[i]);
+        check.isAsBefore("31 restore() again", gate, then);
         gate.hours(13);
         check.due("30 an image of a full past", gate.image(), 1);
         gate.undo();
@@ -381,20 +379,11 @@ public final class ForetoldTest {
         }
     }
 
-    private static int[] state(CarriedGate gate, int people) {
-        int[] all = new int[9 + people * 8];
-        for (int what = 0; what < 9; what++) all[what] = gate.count(what);
-        for (int one = 0; one < people; one++) {
-            for (int what = 0; what < 8; what++) all[9 + 8 * one + what] = gate.of(one, what);
-        }
-        return all;
-    }
-
     private static void nothingIsChanged() {
         CarriedGate gate = check.told("14n/63;s14.9*,g20n3,p0e4", 3);
         gate.hours(2);
         gate.seed(12);
-        int[] before = state(gate, 3);
+        int[] before = Check.state(gate);
         gate.ahead(9);
         gate.then(1, 9, 0);
         gate.lies();
@@ -410,8 +399,7 @@ public final class ForetoldTest {
         gate.sheet(0, 3, 24);
         gate.film(24, 0, 3, 0);
         for (int what = 0; what < 3; what++) gate.seen(1, 0, 3, 0, 8, what);
-        int[] after = state(gate, 3);
-        for (int i = 0; i < before.length; i++) check.due("2 nothing is changed, " + i, after[i], before[i]);
+        check.isAsBefore("2 what is foretold", gate, before);
         check.due("2 nothing is changed, the draw", gate.seed(1), 12);
     }
 }

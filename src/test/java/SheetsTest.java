@@ -25,16 +25,11 @@ public final class SheetsTest {
         for (int i = 0; i < want.length; i++) check.due("constant " + i, got[i], want[i]);
     }
 
-    private static void put(CarriedGate gate, int sheet, int lane, long... items) {
-        check.due("34 sheet", gate.sheet(sheet, lane, items.length), items.length);
-        for (int i = 0; i < items.length; i++) check.due("36 item", gate.item(sheet, lane, i, items[i]), 1);
-    }
-
     /** Promise 32. */
     private static void seen() {
         // One at row 2, column 0 walks east beside the gate at row 2, column 2, which looks north.
         CarriedGate gate = check.told("14n;g14.9*,s12e0", 2);
-        put(gate, 0, 2, 2, 2, 2, 0, 0);
+        check.put(gate, 0, 2, 2, 2, 2, 0, 0);
         check.due("32 kinds", gate.seen(1, 0, 2, 0, 1, 0), 1 << 1 | 1 << 3);
         check.due("32 kinds: shy is not in at the cell of the gate", gate.seen(1, 0, 2, 0, 3, 0), 1 << 1);
         check.due("32 kinds: none is", gate.seen(1, 0, 2, 1, 3, 0), 0);
@@ -47,16 +42,16 @@ public final class SheetsTest {
         check.due("32 looks: whoever is told", gate.seen(0, 0, 2, 3, 1, 2), 1 << 1);
         check.due("32 from an item on", gate.seen(1, 0, 2, 2, 2, 0), 1 << 3);
         CarriedGate sheep = check.told("14n;g8s0,p20.0,s14.2*", 3);
-        put(sheep, 1, 3, 4, 0, 0);
+        check.put(sheep, 1, 3, 4, 0, 0);
         check.due("32 a sheep by whom it follows", sheep.seen(0, 1, 3, 0, 3, 0), 1 << 0 | 1 << 2 | 1 << 3 | 1 << 4);
-        put(sheep, 1, 3, 7);
+        check.put(sheep, 1, 3, 7);
         check.due("32 walks of whom it follows", sheep.seen(0, 1, 3, 0, 1, 1), 1 << 0 | 1 << 1 | 1 << 3 | 1 << 4);
         CarriedGate lying = check.told("14n;g8s0", 1);
-        put(lying, 3, 1, 0, 0, 0, 0, 0, 0, 0, 0);
+        check.put(lying, 3, 1, 0, 0, 0, 0, 0, 0, 0, 0);
         check.due("32 it lies", lying.seen(0, 3, 1, 0, 8, 0), 31);
         check.due("32 it lies", lying.seen(0, 3, 1, 0, 8, 1), 31);
         check.due("32 it lies", lying.seen(0, 3, 1, 0, 8, 2), 15);
-        put(lying, 3, 1, 0, 0, 1);
+        check.put(lying, 3, 1, 0, 0, 1);
         check.due("32 it lies", lying.seen(0, 3, 1, 0, 3, 0), 0);
     }
 
@@ -99,7 +94,7 @@ public final class SheetsTest {
     private static void film() {
         CarriedGate gate = check.told("14n;g14.9*,s20n0", 2);
         // Behind 1, 2, .. hours it is beside, then ahead: 2 each; at hour 9 the gate lies.
-        put(gate, 0, 2, 7, 7, 7, 7, 7, 7, 7, 7, 7, 7, 7, 7);
+        check.put(gate, 0, 2, 7, 7, 7, 7, 7, 7, 7, 7, 7, 7, 7, 7);
         check.due("33 film", gate.film(10, 0, 2, 1), 10);
         check.due("33 ahead of it nothing comes", gate.seen(1, 0, 2, 0, 1, 2), 0);
         check.due("33 behind it nothing comes", gate.seen(1, 0, 2, 11, 1, 2), 0);
@@ -119,7 +114,7 @@ public final class SheetsTest {
 
     private static void filmIsRefused() {
         CarriedGate gate = check.told("14n;s14.20*", 1);
-        put(gate, 0, 2, 0, 0, 0);
+        check.put(gate, 0, 2, 0, 0, 0);
         int[][] bad = {{0, 0, 2, 0}, {25, 0, 2, 0}, {-1, 0, 2, 0}, {1, -1, 2, 0}, {1, 4, 2, 0}, {1, 0, -1, 0}, {1, 0, 4, 0}, {MAX, 0, 2, 0},
             {1, MIN, 2, 0}, {1, 0, MAX, 0}, {25, 1, 2, 0}};
         for (int[] b : bad) check.due("33 bad", gate.film(b[0], b[1], b[2], b[3]), CarriedGate.BAD);
@@ -166,7 +161,7 @@ public final class SheetsTest {
     /** Promise 36. */
     private static void item() {
         CarriedGate gate = check.told("14n;s14.20*", 1);
-        put(gate, 1, 0, 0, 0, 0);
+        check.put(gate, 1, 0, 0, 0, 0);
         int[][] bad = {{-1, 0, 0}, {4, 0, 0}, {1, -1, 0}, {1, 4, 0}, {MAX, 0, 0}, {1, MIN, 0}, {2, 4, 0}};
         for (int[] b : bad) check.due("36 bad", gate.item(b[0], b[1], b[2], 0), CarriedGate.BAD);
         check.due("36 null", gate.item(0, 0, -1, 0), CarriedGate.NULL);
@@ -188,8 +183,8 @@ public final class SheetsTest {
     /** Promise 37. */
     private static void copy() {
         CarriedGate gate = check.told("14n;s14.20", 1);
-        put(gate, 0, 2, 1, 0, 1, 1, 0, 0);
-        put(gate, 1, 2, 0, 0, 0, 0);
+        check.put(gate, 0, 2, 1, 0, 1, 1, 0, 0);
+        check.put(gate, 1, 2, 0, 0, 0, 0);
         check.due("37 copy", gate.copy(0, 1, 1, 0, 3), 3);
         tells(gate, 1, 2, "0110");
         tells(gate, 0, 2, "101100");
@@ -204,9 +199,9 @@ public final class SheetsTest {
 
     private static void copyIsRefused() {
         CarriedGate gate = check.told("14n;s14.20", 1);
-        put(gate, 0, 2, 1, 0, 1, 1, 0, 0);
-        put(gate, 1, 2, 0, 0, 0, 0);
-        put(gate, 2, 3, 0, 0, 0, 0);
+        check.put(gate, 0, 2, 1, 0, 1, 1, 0, 0);
+        check.put(gate, 1, 2, 0, 0, 0, 0);
+        check.put(gate, 2, 3, 0, 0, 0, 0);
         int[][] bad = {{-1, 0}, {4, 0}, {0, -1}, {0, 4}, {MAX, 0}, {0, MIN}, {3, 4}};
         for (int[] b : bad) check.due("37 bad", gate.copy(b[0], 0, b[1], 0, 0), CarriedGate.BAD);
         check.due("37 null", gate.copy(3, 0, 0, 0, 0), CarriedGate.NULL);

@@ -66,12 +66,12 @@ public final class WildCallsTest {
                 if (types[k] == long.class) numbers[k] = random.nextLong();
                 else numbers[k] = wildNumber(random);
             }
-            int[] before = state(gate);
+            int[] before = Check.state(gate);
             try {
                 int answer = (int) (Integer) method.invoke(gate, numbers);
                 String call = method.getName() + Arrays.toString(numbers);
                 boolean told = method.getName().equals("hand") && answer == CarriedGate.NONE;
-                if (answer < 0 && !told) check.due(call + " is refused and changes nothing", Arrays.equals(before, state(gate)) ? 1 : 0, 1);
+                if (answer < 0 && !told) check.due(call + " is refused and changes nothing", Arrays.equals(before, Check.state(gate)) ? 1 : 0, 1);
                 check.due(call + " answers a refusal of the document", isKnown(method.getName(), answer) ? 1 : 0, 1);
             } catch (InvocationTargetException e) {
                 check.due(method.getName() + Arrays.toString(numbers) + " threw " + e.getCause(), 1, 0);
@@ -88,17 +88,5 @@ public final class WildCallsTest {
     private static boolean isKnown(String call, int answer) {
         if (answer >= -4 || answer <= -11 && answer >= -14) return true;
         return call.equals("plain") && answer <= -20 && answer >= -110;
-    }
-
-    private static int[] state(CarriedGate gate) {
-        int[] all = new int[9 + 8 * 8 + 2];
-        for (int what = 0; what < 9; what++) all[what] = gate.count(what);
-        for (int one = 0; one < 8; one++) {
-            for (int what = 0; what < 8; what++) all[9 + 8 * one + what] = gate.of(one, what);
-        }
-        all[9 + 64] = gate.seed(0);
-        gate.seed(all[9 + 64]);
-        all[9 + 65] = gate.wet(40);
-        return all;
     }
 }
