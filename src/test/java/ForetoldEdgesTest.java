@@ -21,6 +21,8 @@ public final class ForetoldEdgesTest {
         roomByOneTurn();
         roomOfLikeOnes();
         roomOfNone();
+        roomOnThePlain();
+        roomsOneBehindTheOther();
         nearestOfLikeOnes();
         nearestNone();
         hingeIsWorthNothing();
@@ -217,6 +219,30 @@ public final class ForetoldEdgesTest {
         check.due("23 none of nobody", new CarriedGate().room(1, 0), CarriedGate.BAD);
     }
 
+    /** The gate is never off the plain: there, just beyond an edge, all four corners could be ahead of it. */
+    private static void roomOnThePlain() {
+        String[] gates = {"0n;g0.20*", "5e;g5.20*", "35s;g35.20*", "30w;g30.20*", "0s;g0.20*", "35n;g35.20*"};
+        for (String gate : gates) {
+            String text = gate + ",g0.0,g5.0,g35.0,g30.0";
+            noRoom(text, 5, 30);
+            check.due("24 two are left out", check.told(text, 5).nearest(30, 0), 2);
+        }
+    }
+
+    /** What was asked ahead of it does not matter: all sets one behind the other, and each by itself. */
+    private static void roomsOneBehindTheOther() {
+        String text = "14n;g14.3*,s13.0,t9.0,h20.0";
+        CarriedGate gate = check.told(text, 4);
+        for (int some = 0; some < 16; some++) {
+            CarriedGate fresh = check.told(text, 4);
+            for (int what = 0; what < 3; what++) {
+                check.due("23 room(" + some + ", " + what + ") behind others", gate.room(some, what), fresh.room(some, what));
+                check.due("24 nearest(" + some + ", " + what + ") behind others", gate.nearest(some, what), fresh.nearest(some, what));
+                check.due("18 now", gate.ahead(0), gate.count(6));
+            }
+        }
+    }
+
     private static void nearestDue(String text, int people, int some, int many, int which, int deeds) {
         CarriedGate gate = check.told(text, people);
         check.due("24 nearest(" + some + ", 0) of " + text, gate.nearest(some, 0), many);
@@ -394,6 +420,15 @@ public final class ForetoldEdgesTest {
         check.due("28 nobody is left", facing.field(8, 2, 1), 0);
         check.due("28 two rooms", facing.field(8, 2, 2), 1);
         check.due("28 only who stands between", facing.field(14, 2, 1), 4);
+        // One cell alone is ahead of both: each corner of the plain.
+        check.due("28 the first cell is ahead of both", check.told("6n;s6.1*", 1).field(7, 3, 2), 0);
+        check.due("28 cell 5 is ahead of both", check.told("6n;s6.1*", 1).field(4, 1, 2), 0);
+        check.due("28 cell 30 is ahead of both", check.told("24s;s24.1*", 1).field(1, 3, 2), 0);
+        check.due("28 the last cell is ahead of both", check.told("24s;s24.1*", 1).field(4, 1, 2), 0);
+        // No cell is ahead of either, though both look the same way off the plain.
+        String[] off = {"0n;s0.1*", "35e;s35.1*", "35s;s35.1*", "0w;s0.1*"};
+        int[] at = {5, 5, 30, 30};
+        for (int look = 0; look < 4; look++) check.due("28 two rooms of no cell", check.told(off[look], 1).field(at[look], look, 2), 1);
         CarriedGate edges = check.told("0n;g0.9*,g35.0", 2);
         check.due("28 all is field", edges.field(35, 1, 0), 36);
         check.due("28 all are left", edges.field(35, 1, 1), 3);
@@ -521,7 +556,21 @@ public final class ForetoldEdgesTest {
             check.due("31 again", gate.restore(), 1);
             check.isAsBefore("31 restore()", gate, before);
         }
-        check.due("31 the eighth deed ahead of it", gate.undo(), 7);
+        for (int left = 7; left >= 0; left--) {
+            check.due("31 what may be undone, as it was then", gate.undo(), left);
+            check.due("31 the hour", gate.count(5), Math.max(0, left - 1));
+            check.due("31 the look", gate.count(2), left == 0 ? 1 : 0);
+        }
+        // A past that went round: the oldest ones were lost ahead of the image.
+        gate.restore();
+        gate.hours(11);
+        gate.image();
+        for (int i = 0; i < 5; i++) gate.turn(i % 2 + 1);
+        gate.restore();
+        for (int left = 7; left >= 0; left--) {
+            check.due("31 what may be undone, as it was then", gate.undo(), left);
+            check.due("31 the hour", gate.count(5), 7 + 3 + left);
+        }
         check.due("31 sheet 1 is dropped as it is", gate.drop(1), CarriedGate.NULL);
         check.due("31 sheet 2 is there as it is", gate.drop(2), 24);
         check.due("31 the tape is as it is", gate.plain(), 0);

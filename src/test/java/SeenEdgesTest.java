@@ -267,7 +267,7 @@ public final class SeenEdgesTest {
         check.due("15 40 hours", nobody.count(5), 40);
         check.due("15 eight known", nobody.count(8), 8);
         for (int people = 1; people <= 8; people++) {
-            for (int seed : new int[] {0, 1, 2, 3, 5, 77, 1 << 30, Integer.MAX_VALUE}) {
+            for (int seed : new int[] {0, 1, 2, 3, 5, 6, 9, 13, 15, 16, 77, 1 << 30, Integer.MAX_VALUE}) {
                 CarriedGate gate = check.told("14n", 0);
                 for (int i = 0; i < people; i++) gate.person(0, 14, 0);
                 gate.seed(seed);

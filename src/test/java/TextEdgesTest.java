@@ -251,6 +251,7 @@ public final class TextEdgesTest {
         gate.seed(99);
         gate.hours(5);
         check.isSo("8 somebody is wet", gate.count(7) > 0);
+        check.isSo("21 and would be wetter", gate.wet(40) > gate.count(7));
         check.tell(gate, "35s;t35s20,g0.1", 2);
         int[] want = {2, 35, 2, CarriedGate.NONE, 0, 0, 0, 0, 0};
         for (int what = 0; what < want.length; what++) check.due("6 count(" + what + ")", gate.count(what), want[what]);
