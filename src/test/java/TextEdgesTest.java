@@ -264,6 +264,15 @@ public final class TextEdgesTest {
         check.due("31 the image stays", gate.restore(), 1);
         check.due("31 three", gate.count(0), 3);
         check.due("31 the draw of then", gate.seed(0), 1);
+        // Also if nothing was foretold between the seed and the text.
+        CarriedGate fresh = new CarriedGate();
+        for (int draw : new int[] {0, 2, Integer.MAX_VALUE}) {
+            fresh.seed(draw);
+            check.tell(fresh, "14n;g14.5*", 1);
+            check.due("6 the draw stays at once", fresh.seed(7), draw);
+            check.tell(fresh, "14n;x", -24);
+            check.due("6 the draw stays with a fault", fresh.seed(9), 7);
+        }
     }
 
     /** "A FAULT (all else stays)": however much was read ahead of it. */
